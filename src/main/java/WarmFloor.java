@@ -1004,17 +1004,16 @@ public final class WarmFloor {
             int hot = felt - floor.high[person];
             for (int i = 0; i < habits.parts; i++) {
                 int by = habits.ifCold[i] ? cold : hot;
-                if (by >= 1 && by >= habits.least[i] && isPressed(person, habits.dial[i], habits.up[i])) {
+                int dial = habits.dial[i];
+                if (by >= 1 && by >= habits.least[i] && !isAbsent(dial) && isPressed(person, dial, habits.up[i])) {
                     return true;
                 }
             }
             return false;
         }
 
+        /** Presses a DIAL, if something can be done with it now. */
         private boolean isPressed(int person, int dial, boolean up) {
-            if (isAbsent(dial)) {
-                return false;
-            }
             int number = up ? 1 : 0;
             if (floor.kind[dial] == REAL) {
                 number = now[dial] + (up ? NUMBER_STEP : -NUMBER_STEP);
