@@ -993,27 +993,28 @@ public final class WarmFloor {
             for (int person = 0; person < floor.persons; person++) {
                 boolean acts = (plan.still >> person & 1) == 0
                         && floor.habits[person].faultPlace() == NONE
-                        && doesSomething(person, warm[step * CELLS + plan.seat[person]]);
+                        && doFirstThatFits(person, warm[step * CELLS + plan.seat[person]]);
                 acted[step * PERSONS + person] = acts ? 1 : 0;
             }
         }
 
-        private boolean doesSomething(int person, int felt) {
+        /** Does the first of one's HABITS that fits; false: none does. */
+        private boolean doFirstThatFits(int person, int felt) {
             Habits habits = floor.habits[person];
             int cold = floor.low[person] - felt;
             int hot = felt - floor.high[person];
             for (int i = 0; i < habits.parts; i++) {
                 int by = habits.ifCold[i] ? cold : hot;
                 int dial = habits.dial[i];
-                if (by >= 1 && by >= habits.least[i] && !isAbsent(dial) && isPressed(person, dial, habits.up[i])) {
+                if (by >= 1 && by >= habits.least[i] && !isAbsent(dial) && press(person, dial, habits.up[i])) {
                     return true;
                 }
             }
             return false;
         }
 
-        /** Presses a DIAL, if something can be done with it now. */
-        private boolean isPressed(int person, int dial, boolean up) {
+        /** Whether something can be done with a DIAL now; if so, it is done. */
+        private boolean press(int person, int dial, boolean up) {
             int number = up ? 1 : 0;
             if (floor.kind[dial] == REAL) {
                 number = now[dial] + (up ? NUMBER_STEP : -NUMBER_STEP);

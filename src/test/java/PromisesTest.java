@@ -179,6 +179,9 @@ public final class PromisesTest {
         due("wall(8, 7, false) again", x.wall(8, 7, false), 0);
         due("count(2) less", x.count(2), 1);
         due("flow to 8 again", x.warmth(1, 8, 0), 210);
+        due("wall(13, 7, false)", x.wall(13, 7, false), 1);
+        due("flow to 13 again", x.warmth(1, 13, 0), 210);
+        due("wall(13, 7, true) again", x.wall(13, 7, true), 1);
         int[][] bad = {{0, 0}, {0, 2}, {0, 7}, {5, 6}, {6, 5}, {11, 12}, {17, 18}, {0, 12}, {-1, 0}, {0, -1}, {23, 24},
             {24, 18}, {-6, 0}, {LEAST, MOST}, {MOST, LEAST}, {1, 6}};
         for (int[] b : bad) {
@@ -365,6 +368,7 @@ public final class PromisesTest {
         due("tune(0, 2, 99)", x.tune(0, 2, 99), BAD);
         due("tune(0, 2, 301)", x.tune(0, 2, 301), BAD);
         due("tune(0, 3, 100)", x.tune(0, 3, 100), BAD);
+        due("tune(0, 3, 5)", x.tune(0, 3, 5), BAD);
         due("tune(0, -1, 100)", x.tune(0, -1, 100), BAD);
         due("tune(1, 0, 0): no FEELER", x.tune(1, 0, 0), BAD);
         due("tune(1, 1, 1): no GRILLES", x.tune(1, 1, 1), BAD);
@@ -530,6 +534,14 @@ public final class PromisesTest {
         x.wipe(0);
         habits(x, 0, "k5:0+");
         due("5 is enough", x.all(0, 0), 1);
+        x.cell(0, 0, 193);
+        x.wipe(0);
+        habits(x, 0, "k12:0+");
+        due("12 is enough", x.all(0, 0), 1);
+        x.wipe(0);
+        habits(x, 0, "k013:0+");
+        due("12 is less than 13", x.all(0, 0), 0);
+        x.cell(0, 0, 200);
         x.wipe(0);
         habits(x, 0, "w0:0+");
         due("not WARM at all", x.all(0, 0), 0);
@@ -690,6 +702,7 @@ public final class PromisesTest {
         y.dial(SHUT, 1, 0);
         y.tune(0, 1, 3);
         due("gives for five STEPS", y.fight(0, 1), 5);
+        due("gives by 1, the other one first", y.fight(1, 0), 5);
         y.tune(2, 2, 1);
         due("half of 1 is nothing", y.fight(0, 1), 0);
         y.set(3, 2);
@@ -875,6 +888,12 @@ public final class PromisesTest {
         y.dial(SHUT, 0, 1);
         // 205, 200 by turns with the card, 210, 200 without.
         due("worth of a SHUT", y.worth(1), 20 * (18 - 8));
+        WarmFloor z = still();
+        z.person(0, 200, 201);
+        z.dial(SHUT, 0, 1);
+        z.dial(REAL, 0, 201);
+        z.tune(1, 1, 1);
+        due("worth of a SHUT ahead of the REAL one", z.worth(0), 20 * (18 - 8));
     }
 
     private static void votes() {
@@ -974,6 +993,11 @@ public final class PromisesTest {
         x.person(0, 300, 300);
         habits(x, 0, "k0:0+;k0:1-");
         due("nobody does anything", x.monday(0, 0, 251, 40), NONE);
+        for (int i = 1; i < 6; i++) {
+            x.person(0, 300, 300);
+            habits(x, i, "k0:0+;k0:1-");
+        }
+        due("nobody of six does anything", x.monday(0, 0, 251, 40), NONE);
         due("others go on", x.monday(0, 7, 600, 40), 40);
         due("not soon enough", x.monday(0, 7, 600, 39), NONE);
         int[][] bad = {{-1, 0, 0, 1}, {1, 0, 0, 1}, {2, 0, 0, 1}, {0, -1, 0, 1}, {0, 24, 0, 1}, {0, 0, -1, 1}, {0, 0, 601, 1}, {0, 0, 0, 0},
@@ -1027,6 +1051,10 @@ public final class PromisesTest {
         span("COLD at 400", x, NOT, NOT, NOT, NOT);
         sheetOf(x, 0, 2, 0, 1);
         span("WARM at 0", x, NOT, NOT, NOT, NOT);
+        sheetOf(x, 0, 2, 0, -1, 400, 1);
+        span("both ends", x, 1, 399, 1, 399);
+        sheetOf(x, 0, 2, 0, 0, 400, 0);
+        span("the whole span", x, 0, 0, 400, 400);
         sheetOf(x, 0, 2, 399, -1);
         span("COLD at 399", x, 400, 400, 400, 400);
         sheetOf(x, 0, 2, 200, 0, 200, 1);
@@ -1232,6 +1260,7 @@ public final class PromisesTest {
         x.person(3, 190, 195);
         x.person(9, 230, 240);
         x.person(2, 210, 240);
+        x.person(23, 300, 300);
         x.dial(REAL, 8, 220);
         x.dial(HEATER, 3, 0);
         x.dial(SHUT, 9, 0);
@@ -1239,14 +1268,17 @@ public final class PromisesTest {
         habits(x, 0, "w2:2+;w9:1-");
         habits(x, 1, "k1:2-;k2:1+");
         habits(x, 2, "k1:0+;!");
+        x.dial(FALSE, 0, 0);
+        x.set(5, 60);
+        habits(x, 3, "k1:3+;k1:3-");
         long h = 17;
         for (int what = 0; what <= 4; what++) {
             h = 31 * h + x.count(what);
         }
-        for (int person = 0; person < 3; person++) {
+        for (int person = 0; person < 4; person++) {
             h = 31 * h + x.fault(person);
         }
-        for (int person = 0; person < 3; person++) {
+        for (int person = 0; person < 4; person++) {
             h = 31 * h + x.all(person, 0);
             h = 31 * h + x.all(person, 1);
         }
@@ -1257,10 +1289,11 @@ public final class PromisesTest {
                 h = 31 * h + x.warmth(step, cell, 0);
             }
         }
-        for (int dial = 0; dial < 3; dial++) {
+        for (int dial = 0; dial < 4; dial++) {
             h = 31 * h + x.number(39, dial);
         }
         h = 31 * h + x.ring();
+        due("a number changes in the last STEP", x.number(39, 3) - x.number(38, 3), -1);
         due("ring() is not empty here", x.ring(), 3);
         due("digest()", x.digest(), h);
         due("digest() again", x.digest(), h);
