@@ -58,6 +58,7 @@ public final class EdgesTest {
         sheets();
         limitsOfArguments();
         refusals();
+        twoBadArguments();
         firstOfTwoRefusals();
         questionsChangeNothing();
         questionsLeaveOthers();
@@ -1793,6 +1794,21 @@ public final class EdgesTest {
     }
 
     // ---- two refusals fit: the first in the order told is the answer
+
+    private static void twoBadArguments() {
+        refusedBy(2, RICH, "BAD", "cell 24 2 401", "cell -1 0 -1", "cell 0 2 401");
+        refusedBy(4, RICH, "BAD", "wall 24 25 true", "wall -1 -7 false", "wall 24 24 true");
+        refusedBy(5, RICH, "BAD", "set 6 -1", "set -1 401");
+        refusedBy(7, RICH, "BAD", "seat 3 24", "seat -1 -1");
+        refusedBy(12, RICH, "BAD", "tune 7 3 0", "tune 1 0 24", "tune 1 1 0", "tune -1 -1 -1");
+        refusedBy(13, RICH, "BAD", "warmth 41 24 2", "warmth -1 -1 -1");
+        refusedBy(14, RICH, "BAD", "number 40 7", "number -1 -1");
+        refusedBy(15, RICH, "BAD", "did 40 3 2", "did -1 -1 -1");
+        refusedBy(16, RICH, "BAD", "all 3 2", "all -1 -1");
+        refusedBy(18, RICH, "BAD", "harm 3 3", "harm -1 -1", "harm 0 0", "harm 2 2");
+        refusedBy(19, RICH, "BAD", "fight 7 7", "fight -1 -1", "fight 0 0", "fight 6 6");
+        refusedBy(20, RICH, "BAD", "leads 3 3", "leads -1 -1", "leads 0 0", "leads 2 2");
+    }
 
     private static void firstOfTwoRefusals() {
         refusedBy(3, RICH, "BAD", "read 3 24", "read 3 -1", "read 4 24");
