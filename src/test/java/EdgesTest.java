@@ -1,5 +1,3 @@
-import java.lang.reflect.InvocationTargetException;
-import java.lang.reflect.Method;
 import java.math.BigInteger;
 import java.util.ArrayList;
 import java.util.Arrays;
@@ -9,20 +7,10 @@ import java.util.Map;
 
 /**
  * Every boundary case that the document names, each as a case of its own on a new object. A case is told as
- * calls, parted by " | ", with the answer that is due: "cell 23 0 400 = 200 | warmth 0 23 0 = 400". Beside the
- * calls of the face there are "habits 0 k1:0+" (types a text) and "row 0 2 5 6 7" (a SHEET with its items).
+ * calls, parted by " | ", with the answers that are due; Desk says how.
  */
 public final class EdgesTest {
-    /** Nothing is promised of an object behind so many calls, so no case may need more. */
-    private static final int MOST_CALLS = 512;
     private static final int PROMISES = 37;
-
-    private static final Map<String, Integer> NAMES = Map.ofEntries(
-        Map.entry("NONE", -1), Map.entry("BAD", -2), Map.entry("NOT", -3), Map.entry("FULL", -4),
-        Map.entry("NULL", -11), Map.entry("INDEX", -12), Map.entry("CAST", -13), Map.entry("STORE", -14),
-        Map.entry("SIZE", -15), Map.entry("MIN", Integer.MIN_VALUE), Map.entry("MAX", Integer.MAX_VALUE));
-
-    private static final Map<String, Method> FACE = new HashMap<>();
 
     private static final String EMPTY = "count 0";
     /** Without FLOW and SOAK each CELL stays as it is but for DIALS. */
@@ -46,9 +34,6 @@ public final class EdgesTest {
     private static final int[] casesOf = new int[PROMISES + 1];
 
     public static void main(String[] args) {
-        for (Method m : WarmFloor.class.getDeclaredMethods()) {
-            FACE.put(m.getName(), m);
-        }
         theFloor();
         personsAndDials();
         theRun();
@@ -90,7 +75,7 @@ public final class EdgesTest {
 
     private static void edge(String caseName, String... calls) {
         begin(caseName);
-        Desk desk = new Desk();
+        Desk desk = new Desk(EdgesTest::due);
         for (String some : calls) {
             desk.plays(some);
         }
@@ -107,79 +92,6 @@ public final class EdgesTest {
 
     private static String often(String call, int times) {
         return each(call, 1, times);
-    }
-
-    private static int value(String word) {
-        return NAMES.containsKey(word) ? NAMES.get(word) : Integer.parseInt(word);
-    }
-
-    /** An object on the desk, called by texts; it counts its calls. */
-    private static final class Desk {
-        private final WarmFloor x = new WarmFloor();
-        private int calls = 0;
-
-        void plays(String some) {
-            for (String text : some.split(" \\| ")) {
-                does(text);
-            }
-        }
-
-        private void does(String text) {
-            String[] words = text.split(" ");
-            if (words[0].equals("habits")) {
-                types(words[1], words[2]);
-            } else if (words[0].equals("row")) {
-                lays(words);
-            } else {
-                int at = text.indexOf(" = ");
-                long got = call(at < 0 ? text : text.substring(0, at));
-                if (at >= 0) {
-                    due(text.substring(0, at), got, value(text.substring(at + 3)));
-                }
-            }
-        }
-
-        private void types(String person, String text) {
-            for (char c : text.toCharArray()) {
-                call("type " + person + " " + (int) c);
-            }
-        }
-
-        private void lays(String[] words) {
-            int first = 3;
-            call("sheet " + words[1] + " " + words[2] + " " + (words.length - first));
-            for (int i = first; i < words.length; i++) {
-                call("lay " + words[1] + " " + words[2] + " " + (i - first) + " " + words[i]);
-            }
-        }
-
-        long call(String text) {
-            String[] words = text.split(" ");
-            Method m = FACE.get(words[0]);
-            Class<?>[] types = m.getParameterTypes();
-            Object[] values = new Object[types.length];
-            if (words.length != types.length + 1) {
-                throw new IllegalStateException("'" + text + "' is no call");
-            }
-            for (int i = 0; i < types.length; i++) {
-                if (types[i] == boolean.class) {
-                    values[i] = words[i + 1].equals("true");
-                } else {
-                    values[i] = value(words[i + 1]);
-                }
-            }
-            calls++;
-            due("number of calls up to " + text, Math.max(calls, MOST_CALLS), MOST_CALLS);
-            try {
-                return ((Number) m.invoke(x, values)).longValue();
-            } catch (InvocationTargetException thrown) {
-                wrong++;
-                System.out.println("promise " + promise + ", " + name + ": " + text + " threw " + thrown.getCause());
-                return Long.MIN_VALUE;
-            } catch (IllegalAccessException hidden) {
-                throw new IllegalStateException(hidden);
-            }
-        }
     }
 
     // ---- the floor
@@ -208,8 +120,8 @@ public final class EdgesTest {
         edge("OUT is 100", "count 3 = 100 | set 0 0 = 100");
         edge("LAWS at first", "set 1 0 = 10 | set 2 0 = 5 | set 3 0 = 10 | set 4 0 = 5 | set 5 1 = 3");
         begin("another object has its own floor");
-        Desk one = new Desk();
-        Desk other = new Desk();
+        Desk one = new Desk(EdgesTest::due);
+        Desk other = new Desk(EdgesTest::due);
         one.plays("cell 0 0 7 | set 0 7 | person 0 0 0 | dial 1 0 0 | wall 0 1 true | sheet 0 0 1 | lose 1");
         other.plays("warmth 0 0 0 = 200 | count 3 = 100 | count 0 = 0 | count 1 = 0 | count 2 = 0 | count 8 = 0 | lose 0 = NULL");
         edge("the last of 512 calls", often("cell 0 0 #", 400) + " | " + often("cell 1 0 #", 111) + " | warmth 0 1 0 = 111");
@@ -1395,7 +1307,7 @@ public final class EdgesTest {
     /** The digest without a limit to its length, from the answers of other calls; then as much of it as a long has. */
     private static void digest(String caseName, String setup) {
         begin(caseName);
-        Desk desk = new Desk();
+        Desk desk = new Desk(EdgesTest::due);
         desk.plays(setup);
         List<String> asked = new ArrayList<>(List.of("count 0", "count 1", "count 2", "count 3", "count 4"));
         int persons = (int) desk.call("count 0");
@@ -1442,9 +1354,9 @@ public final class EdgesTest {
         for (int v : new int[] {least, most}) {
             String inside = call.replace("?", String.valueOf(v));
             begin(inside + " is no BAD one");
-            Desk desk = new Desk();
+            Desk desk = new Desk(EdgesTest::due);
             desk.plays(setup);
-            due(inside + " is refused", desk.call(inside) == value("BAD") ? 1 : 0, 0);
+            due(inside + " is refused", desk.call(inside) == Desk.value("BAD") ? 1 : 0, 0);
         }
         for (int v : new int[] {least - 1, most + 1, Integer.MIN_VALUE, Integer.MAX_VALUE}) {
             refused(setup, call.replace("?", String.valueOf(v)), "BAD");
@@ -1678,7 +1590,7 @@ public final class EdgesTest {
     private static long[][] seenBehind(String setup, String call) {
         long[][] seen = new long[VIEWS.length][];
         for (int i = 0; i < VIEWS.length; i++) {
-            Desk desk = new Desk();
+            Desk desk = new Desk(EdgesTest::due);
             desk.plays(setup);
             if (!call.isEmpty()) {
                 desk.call(call);
@@ -1701,16 +1613,16 @@ public final class EdgesTest {
 
     private static void refused(String setup, String call, String answer, int finding) {
         begin(call + " is refused");
-        Desk desk = new Desk();
+        Desk desk = new Desk(EdgesTest::due);
         desk.plays(setup);
         long before = desk.call("count 8");
-        due(call, desk.call(call), value(answer));
+        due(call, desk.call(call), Desk.value(answer));
         due("count 8 behind " + call, desk.call("count 8"), finding == 0 ? before : finding);
         changesNothing(setup, call);
     }
 
     private static void refused(String setup, String call, String answer) {
-        int v = value(answer);
+        int v = Desk.value(answer);
         refused(setup, call, answer, v <= -10 ? -10 - v : 0);
     }
 
@@ -1870,12 +1782,12 @@ public final class EdgesTest {
         promise = 37;
         for (String setup : new String[] {RICH, RICH + " | person 20 180 185 | habits 3 w1:6-;w9:4+"}) {
             for (String question : QUESTIONS) {
-                Desk alone = new Desk();
+                Desk alone = new Desk(EdgesTest::due);
                 alone.plays(setup);
                 long due = alone.call(question);
                 for (String other : QUESTIONS) {
                     begin(question + " behind " + other);
-                    Desk desk = new Desk();
+                    Desk desk = new Desk(EdgesTest::due);
                     desk.plays(setup);
                     desk.call(other);
                     due(question, desk.call(question), due);
@@ -1893,8 +1805,8 @@ public final class EdgesTest {
         for (String[] change : changes) {
             promise = Integer.parseInt(change[0]);
             begin(change[1] + " is seen by all who ask behind it");
-            Desk early = new Desk();
-            Desk late = new Desk();
+            Desk early = new Desk(EdgesTest::due);
+            Desk late = new Desk(EdgesTest::due);
             early.plays(RICH);
             late.plays(RICH);
             long before = early.call("digest");

@@ -1,12 +1,18 @@
+import com.sun.source.tree.ArrayAccessTree;
+import com.sun.source.tree.AssignmentTree;
 import com.sun.source.tree.BlockTree;
 import com.sun.source.tree.ClassTree;
 import com.sun.source.tree.CompilationUnitTree;
+import com.sun.source.tree.CompoundAssignmentTree;
+import com.sun.source.tree.ForLoopTree;
 import com.sun.source.tree.LineMap;
 import com.sun.source.tree.MethodInvocationTree;
 import com.sun.source.tree.MethodTree;
 import com.sun.source.tree.NewClassTree;
 import com.sun.source.tree.Tree;
+import com.sun.source.tree.UnaryTree;
 import com.sun.source.tree.VariableTree;
+import com.sun.source.tree.WhileLoopTree;
 import com.sun.source.util.JavacTask;
 import com.sun.source.util.SourcePositions;
 import com.sun.source.util.TreePathScanner;
@@ -117,6 +123,11 @@ public final class LanguageTest {
         private static final Set<Tree.Kind> FORBIDDEN = Set.of(Tree.Kind.THROW, Tree.Kind.TRY, Tree.Kind.CATCH, Tree.Kind.SYNCHRONIZED,
             Tree.Kind.ASSERT, Tree.Kind.LAMBDA_EXPRESSION, Tree.Kind.MEMBER_REFERENCE, Tree.Kind.YIELD);
 
+        private static final Set<Tree.Kind> STEPPING = Set.of(Tree.Kind.PREFIX_INCREMENT, Tree.Kind.PREFIX_DECREMENT,
+            Tree.Kind.POSTFIX_INCREMENT, Tree.Kind.POSTFIX_DECREMENT);
+        private static final Set<String> TYPES = Set.of("int", "long", "short", "byte", "char", "boolean", "int[]", "long[]", "short[]",
+            "byte[]", "char[]", "boolean[]", "java.lang.String");
+
         private final Trees trees;
         private final CompilationUnitTree unit;
         private final SourcePositions places;
@@ -149,6 +160,7 @@ public final class LanguageTest {
         @Override
         public Void visitClass(ClassTree tree, Void v) {
             classes++;
+            rule(2, caller == null, tree.getSimpleName() + " stands in a method");
             long fields = tree.getMembers().stream().filter(m -> m instanceof VariableTree f
                 && !f.getModifiers().getFlags().contains(javax.lang.model.element.Modifier.STATIC)).count();
             rule(11, fields <= 20, tree.getSimpleName() + " has " + fields + " fields");
@@ -175,6 +187,51 @@ public final class LanguageTest {
             Void answer = super.visitMethod(tree, v);
             caller = null;
             return answer;
+        }
+
+        @Override
+        public Void visitVariable(VariableTree tree, Void v) {
+            String type = String.valueOf(trees.getTypeMirror(getCurrentPath()));
+            rule(3, TYPES.contains(type) || type.startsWith("WarmFloor"), tree.getName() + " is of type " + type);
+            return super.visitVariable(tree, v);
+        }
+
+        @Override
+        public Void visitAssignment(AssignmentTree tree, Void v) {
+            lookAtChanged(tree.getVariable());
+            return super.visitAssignment(tree, v);
+        }
+
+        @Override
+        public Void visitCompoundAssignment(CompoundAssignmentTree tree, Void v) {
+            lookAtChanged(tree.getVariable());
+            return super.visitCompoundAssignment(tree, v);
+        }
+
+        @Override
+        public Void visitUnary(UnaryTree tree, Void v) {
+            if (STEPPING.contains(tree.getKind())) {
+                lookAtChanged(tree.getExpression());
+            }
+            return super.visitUnary(tree, v);
+        }
+
+        /** By a cautious reading of rule 5 nothing that is named as constants are is changed, nor an item of it. */
+        private void lookAtChanged(Tree target) {
+            Tree row = target instanceof ArrayAccessTree item ? item.getExpression() : target;
+            rule(5, !row.toString().matches("[A-Z_]+"), row + " is changed in line " + line(row));
+        }
+
+        @Override
+        public Void visitWhileLoop(WhileLoopTree tree, Void v) {
+            rule(9, !tree.getCondition().toString().equals("(true)"), "a loop without an end in line " + line(tree));
+            return super.visitWhileLoop(tree, v);
+        }
+
+        @Override
+        public Void visitForLoop(ForLoopTree tree, Void v) {
+            rule(9, tree.getCondition() != null, "a loop without an end in line " + line(tree));
+            return super.visitForLoop(tree, v);
         }
 
         @Override
